@@ -5,7 +5,8 @@ import java.util.Arrays;
  * Switches with two tables each, hosts, wires that hold frames, and a controller that learns where
  * links and hosts are and lays the way of each pair of hosts along a shortest path.
  *
- * <p>An END is a port of a switch written as one number, 4 * switch + port, here and in the answers.
+ * <p>A port of a switch is written as one number here, 4 * switch + port, and called an end,
+ * whether a link is there or not.
  */
 public final class FlowFabric {
     public static final int NONE = -1;
@@ -360,33 +361,37 @@ public final class FlowFabric {
         final int code;
         /** A port, a set of ports as bits, or a wave. */
         final int value;
-        /** The first host of the pair; of a SEEN the end where the probe was sent out. */
+        /** The first host of a pair or datagram; of a SEEN the end where the probe was sent out. */
         final int from;
         final int to;
-        final Datagram datagram;
+        final int number;
 
-        private Message(int code, int value, int from, int to, Datagram datagram) {
+        private Message(int code, int value, int from, int to, int number) {
             this.code = code;
             this.value = value;
             this.from = from;
             this.to = to;
-            this.datagram = datagram;
+            this.number = number;
         }
 
         static Message ofValue(int code, int value) {
-            return new Message(code, value, NONE, NONE, null);
+            return new Message(code, value, NONE, NONE, 0);
         }
 
         static Message ofPair(int code, int value, int from, int to) {
-            return new Message(code, value, from, to, null);
+            return new Message(code, value, from, to, 0);
         }
 
         static Message ofDatagram(int code, int value, Datagram datagram) {
-            return new Message(code, value, datagram.from, datagram.to, datagram);
+            return new Message(code, value, datagram.from, datagram.to, datagram.number);
         }
 
         static Message ofProbe(int port, int origin) {
-            return new Message(SEEN, port, origin, NONE, null);
+            return new Message(SEEN, port, origin, NONE, 0);
+        }
+
+        Datagram toDatagram() {
+            return new Datagram(from, to, number);
         }
     }
 
@@ -616,10 +621,10 @@ public final class FlowFabric {
                     reports.add(Message.ofValue(DONE, order.value));
                     break;
                 case OUT:
-                    sendOutAt(order.value, order.datagram);
+                    sendOutAt(order.value, order.toDatagram());
                     break;
                 case GO:
-                    comeToRules(order.datagram, PORT_OF_GO, now);
+                    comeToRules(order.toDatagram(), PORT_OF_GO, now);
                     break;
                 case PROBES:
                     sendProbes();
@@ -762,7 +767,7 @@ public final class FlowFabric {
         void handle(int node, Message report) {
             switch (report.code) {
                 case MISS:
-                    handleMiss(node, report.value, report.datagram);
+                    handleMiss(node, report.value, report.toDatagram());
                     break;
                 case SEEN:
                     handleSeen(endOf(node, report.value), report.from);
@@ -842,7 +847,8 @@ public final class FlowFabric {
             }
             for (int k = 0; k < courses.size(); k++) {
                 Course course = courses.get(k);
-                if (course.isLayingOrLaid() && (course.endsWith(end) || course.endsWith(origin))) {
+                boolean hurt = course.endsWith(end) || course.endsWith(origin);
+                if (hurt && course.isLayingOrLaid()) {
                     clearCourse(course);
                 }
             }
@@ -911,7 +917,8 @@ public final class FlowFabric {
             otherEnds[other] = NONE;
             for (int k = 0; k < courses.size(); k++) {
                 Course course = courses.get(k);
-                if (course.isLayingOrLaid() && (course.leadsOutOf(end) || course.leadsOutOf(other))) {
+                boolean hurt = course.leadsOutOf(end) || course.leadsOutOf(other);
+                if (hurt && course.isLayingOrLaid()) {
                     clearCourse(course);
                 }
             }
@@ -963,8 +970,12 @@ public final class FlowFabric {
             }
             int[] way = new int[steps[node] + 1];
             for (int k = 0; k < way.length - 1; k++) {
-                way[k] = nextEnd(node);
-                node = switchOf(otherEnds[way[k]]);
+                int end = nextEnd(node);
+                if (end == NONE) {
+                    return NO_WAY;
+                }
+                way[k] = end;
+                node = switchOf(otherEnds[end]);
             }
             way[way.length - 1] = places[to];
             return way;
@@ -985,7 +996,7 @@ public final class FlowFabric {
             }
         }
 
-        /** The end, one step nearer the goal, to the least switch and there of the least port. */
+        /** The end that leads one step nearer the goal, to the least switch, by the least port. */
         private int nextEnd(int node) {
             int best = NONE;
             for (int p = 0; p < PORTS; p++) {

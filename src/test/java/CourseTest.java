@@ -1,4 +1,4 @@
-/** Promises 10 (MISS with a course, DONE, NOROOM, GONE, what SEEN and DOWN clear) and 19: course. */
+/** Promises 10 (what a report does to courses) and 19: report, course. */
 public final class CourseTest {
     private static final Check check = new Check();
 
@@ -366,6 +366,8 @@ public final class CourseTest {
         }
         check.due("SEEN", probed, 1);
         check.due("no place", x.place(0), -1);
+        check.due("other places stay", x.place(1), 4);
+        check.due("other places stay", x.place(2), 7);
         check.due("cleared", x.course(1, 0, -1), 1);
         check.due("the other one is laid as before", x.course(2, 1, -1), 3);
     }

@@ -1,4 +1,4 @@
-/** Promises 10 (MISS without a course, SEEN, DOWN), 11, 17 and 18: report, probe, known, place. */
+/** Promises 10 (what a report makes known), 11, 17 and 18: report, probe, known, place. */
 public final class LearnTest {
     private static final Check check = new Check();
 

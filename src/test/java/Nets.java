@@ -77,7 +77,7 @@ final class Nets {
         return x;
     }
 
-    /** One switch of two, with hosts 0 .. count - 1 (at most 4) at its ports, their places known. */
+    /** Hosts 0 .. count - 1 (at most 4) at the ports of switch 0, their places known. */
     static FlowFabric star(int count, int room, int idle) {
         FlowFabric x = new FlowFabric(2, room, idle);
         for (int port = 0; port < count; port++) {
