@@ -22,9 +22,11 @@ public final class ControllerEdgeTest {
         wayByTheLeastPort();
         wayEndsWithThePortOfThePlace();
         clearingWaitsForEachSwitch();
+        layingTakesTheWayOfNow();
         layingIsLedFromTheLastToTheFirst();
         placeOfEachPort();
         noPlaceAtMarkedPorts();
+        placeOfAHostWithACourse();
         placeChangesNothingElse();
         keptInThePlaceOfAnother();
         laidAloneIsCleared();
@@ -38,6 +40,7 @@ public final class ControllerEdgeTest {
         seenTakesPlaces();
         seenTakesThePlacesOfAll();
         seenClearsLayingAndLaid();
+        seenLeavesWhatLeadsOver();
         seenLeavesTheClearing();
         seenClearsInTheirOrder();
         seenClearsAllSix();
@@ -425,6 +428,34 @@ public final class ControllerEdgeTest {
         check.due("five DONEs", x.course(0, 1, -1), -1);
     }
 
+    private static void layingTakesTheWayOfNow() {
+        check.part("TO LAY a course: its way is what there is now");
+        FlowFabric x = joined(0, 1, new int[][] {{0, 1, 1, 1}, {0, 2, 2, 1}, {2, 2, 1, 2}});
+        wayIs("of two", x, 0, 1);
+        x.turn(0, 1, false);
+        x.report(0);
+        check.due("clearing", x.course(0, 1, -1), 1);
+        wayIs("still of two", x, 0, 1);
+        Nets.obeyAll(x, 3);
+        Nets.reportAll(x, 3);
+        check.due("laying", x.course(0, 1, -1), 2);
+        wayIs("of three", x, 0, 2, 1);
+        x.turn(0, 1, true);
+        x.turn(2, 2, false);
+        x.report(2);
+        x.probe();
+        Nets.obeyAll(x, 3);
+        x.carry(0, 1);
+        while (x.waiting(1, 5) > 0) {
+            x.report(1);
+        }
+        check.due("known again", x.known(0, 1), 5);
+        wayIs("still of three", x, 0, 2, 1);
+        Nets.reportAll(x, 3);
+        check.due("laying", x.course(0, 1, -1), 2);
+        wayIs("of two again", x, 0, 1);
+    }
+
     private static void layingIsLedFromTheLastToTheFirst() {
         check.part("it is LED to the last switch of its way; else it is led to the switch ahead of"
                 + " that one in its way");
@@ -484,6 +515,23 @@ public final class ControllerEdgeTest {
             check.due("that port of the other switch is not marked",
                     x.place(2 + 1 - node), 4 * (1 - node) + port);
         }
+    }
+
+    private static void placeOfAHostWithACourse() {
+        check.part("the place of the host that the datagram is from becomes s and that port (there"
+                + " is a course of its pair)");
+        FlowFabric x = falsePlace();
+        x.send(0, 1, 5);
+        x.carry(0, 2);
+        x.report(1);
+        check.due("a course", x.course(0, 1, -1), 2);
+        check.due("its first place", x.place(0), 5);
+        x.unguard(0, 0);
+        x.send(0, 1, 6);
+        check.due("MISS", x.report(0), 0);
+        check.due("another place", x.place(0), 0);
+        check.due("the course keeps it", x.course(0, 1, -2), 6);
+        check.due("its way is as before", x.course(0, 1, 0), 1);
     }
 
     private static void placeChangesNothingElse() {
@@ -799,6 +847,25 @@ public final class ControllerEdgeTest {
                 check.due("what it kept", x.course(1, 0, -2), state == 2 ? 5 : 0);
             }
         }
+    }
+
+    private static void seenLeavesWhatLeadsOver() {
+        check.part("whose way ends with one of these two ports (not one that leads over them)");
+        FlowFabric x = Nets.laidRow(3, 4, 9);
+        x.carry(0, 2);
+        x.carry(1, 2);
+        x.probe();
+        Nets.obeyAll(x, 3);
+        int[][] ends = {{0, 2}, {1, 1}, {1, 2}, {2, 1}};
+        for (int[] end : ends) {
+            check.due("carry", x.carry(end[0], end[1]), true);
+        }
+        for (int node = 0; node < 3; node++) {
+            check.due("SEEN", x.report(node), 1);
+        }
+        check.due("SEEN", x.report(1), 1);
+        check.due("laid as before", x.course(0, 1, -1), 3);
+        check.due("no order", x.waiting(0, 4) + x.waiting(1, 4) + x.waiting(2, 4), 0);
     }
 
     private static void seenLeavesTheClearing() {

@@ -30,6 +30,7 @@ public final class TermsEdgeTest {
         verdictsAtTheirEdges();
         roomRules();
         ruleOfThePairAlone();
+        ruleIsUsedLastNow();
         missNamesThePort();
         missByAGoNamesFour();
         eighthMissWithoutARule();
@@ -42,6 +43,7 @@ public final class TermsEdgeTest {
         otherOrdersComeBehindSixteen();
         putIsANewRule();
         cutOfNoRule();
+        cutOfOneRuleAlone();
         outAtTheLeastAndTheGreatestPort();
         probesOfAllEndsOrNone();
         emptyLists();
@@ -502,6 +504,30 @@ public final class TermsEdgeTest {
         check.due("it is not missed", x.waiting(0, 5), 3);
     }
 
+    private static void ruleIsUsedLastNow() {
+        check.part("was used last NOW");
+        for (int byGo = 0; byGo < 2; byGo++) {
+            FlowFabric x = Nets.star(2, 4, 3);
+            x.send(0, 1, 5);
+            x.report(0);
+            x.obey(0);
+            x.obey(0);
+            x.report(0);
+            x.tick();
+            x.tick();
+            if (byGo == 1) {
+                check.due("GO", x.obey(0), 4);
+            } else {
+                x.send(0, 1, 6);
+            }
+            String name = byGo == 1 ? "used by a GO" : "used";
+            check.due(name, x.rule(0, 0, 1, 1), 1);
+            check.due(name + " one tick ago", x.tick(), 0);
+            check.due(name + " two ticks ago", x.tick(), 0);
+            check.due(name + " three ticks ago", x.tick(), 1);
+        }
+    }
+
     private static void missNamesThePort() {
         check.part("A missed datagram becomes a MISS with the port where it came in");
         for (int verdict = 5; verdict <= 6; verdict++) {
@@ -801,6 +827,32 @@ public final class TermsEdgeTest {
         check.due("BARRIER", x.obey(0), 2);
         check.due("PUT", x.obey(0), 0);
         check.due("the rule of another pair", x.rule(0, 0, 2, 2), 0);
+    }
+
+    private static void cutOfOneRuleAlone() {
+        check.part("CUT (a pair): the rule of the pair");
+        int[][] pairs = {{0, 1}, {1, 0}, {0, 2}};
+        for (int cut = 0; cut < 3; cut++) {
+            FlowFabric x = Nets.star(3, 4, 9);
+            for (int[] pair : pairs) {
+                x.send(pair[0], pair[1], 5);
+            }
+            Nets.settle(x, 1, 2);
+            Nets.obeyAll(x, 1);
+            x.guard(0, 0, 8 * (1 + pairs[cut][0]) + 64 * (1 + pairs[cut][1]), 6);
+            x.send(pairs[cut][0], pairs[cut][1], 6);
+            x.report(0);
+            check.due("CUT", x.obey(0), 1);
+            for (int k = 0; k < 3; k++) {
+                int from = pairs[k][0];
+                int to = pairs[k][1];
+                String name = "without rule " + cut + ", rule " + k;
+                check.due(name, x.rule(0, from, to, 0), k == cut ? -1 : to);
+                check.due(name + ": uses", x.rule(0, from, to, 1), k == cut ? -1 : 1);
+                check.due(name + ": place", x.rule(0, from, to, 2),
+                        k == cut ? -1 : k < cut ? k : k - 1);
+            }
+        }
     }
 
     private static void outAtTheLeastAndTheGreatestPort() {
